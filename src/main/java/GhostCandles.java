@@ -401,7 +401,7 @@ public final class GhostCandles {
         /** The cells that have a wall below them; never one beside the rim. */
         private long wallsBelow;
         private long lit;
-        /** By cells: the wax of a candle, or the marks of a tally. */
+        /** By cells: the wax of a candle, or the marks of a tally; 0 without either. */
         private final Row amounts = new Row(CELLS);
 
         void copyFrom(House other) {
@@ -501,7 +501,6 @@ public final class GhostCandles {
 
         void addTally(int cell) {
             tallies |= Grid.only(cell);
-            amounts.put(cell, 0);
         }
 
         void clear(int cell) {
@@ -646,9 +645,9 @@ public final class GhostCandles {
         private final House house;
         private long own;
         private boolean mayPass;
-        /** The cells that are a number of steps from the goal, without passing a wall. */
+        /** The cells that are at most a number of steps from the goal, without passing a wall. */
         private long plain;
-        /** The cells that are so many steps from it, passing one wall. */
+        /** The cells that are at most so many steps from it, passing one wall. */
         private long passing;
 
         Ways(House house) {
@@ -662,30 +661,32 @@ public final class GhostCandles {
             long free = ~house.lit | own;
             plain = Grid.only(goal) & free;
             passing = 0;
-            long plainSeen = plain;
-            long passingSeen = 0;
             if (from == goal) {
                 return 0;
             }
-            for (int steps = 1; steps < CELLS && (plain | passing) != 0; steps++) {
-                long plainNext = house.neighbours(plain, false) & free & ~plainSeen;
-                long passingNext = 0;
+            for (int steps = 1; steps < CELLS; steps++) {
+                long plainNext = plain | house.neighbours(plain, false) & free;
+                long passingNext = passing;
                 if (mayPass) {
-                    passingNext = house.neighbours(passing, false) | house.neighbours(plain, true);
-                    passingNext &= free & ~passingSeen;
+                    passingNext |= house.neighbours(passing, false) & free;
+                    passingNext |= house.neighbours(plain, true) & free;
                 }
                 if (((plainNext | passingNext) & own) != 0) {
                     return steps;
                 }
+                if (plainNext == plain && passingNext == passing) {
+                    return NONE;
+                }
                 plain = plainNext;
                 passing = passingNext;
-                plainSeen |= plain;
-                passingSeen |= passing;
             }
             return NONE;
         }
 
-        /** The first step of the way that fewestSteps found last, if it has at least one step. */
+        /**
+         * The first step of the way that fewestSteps found last, if it has at least one step. That
+         * one has stopped before the own cell, so each neighbour found is just one step nearer.
+         */
         int firstDirection() {
             for (int direction = 0; direction < DIRECTIONS; direction++) {
                 long open = own & ~house.walledCells(direction);

@@ -19,14 +19,14 @@ public final class RoomTest {
 
     private static long spent(GhostCandles house) {
         ThreadMXBean threads = (ThreadMXBean) ManagementFactory.getThreadMXBean();
-        long before = threads.getThreadAllocatedBytes(Thread.currentThread().getId());
+        long before = threads.getCurrentThreadAllocatedBytes();
         for (int call = 0; call < 128; call++) {
             house.advise(8);
             house.foresee(40, 0);
             house.reaches(0, 0, 99);
             house.pass(1);
         }
-        return threads.getThreadAllocatedBytes(Thread.currentThread().getId()) - before;
+        return threads.getCurrentThreadAllocatedBytes() - before;
     }
 
     private static GhostCandles fullHouse() {
