@@ -5,18 +5,36 @@ final class Due {
     }
 
     private final String test;
+    private String sentence = "";
     private int checks;
+    private int checksOfSentence = 1;
     private int wrong;
 
     Due(String test) {
         this.test = test;
     }
 
+    /** What is checked from here on is due by this sentence of the document, in its own words. */
+    void sentence(String words) {
+        endSentence();
+        sentence = words;
+        checksOfSentence = 0;
+    }
+
+    private void endSentence() {
+        if (checksOfSentence == 0) {
+            wrong++;
+            System.out.println(test + ": nothing was checked of: " + sentence);
+        }
+    }
+
     void is(String call, Object got, Object want) {
         checks++;
+        checksOfSentence++;
         if (!want.equals(got)) {
             wrong++;
-            System.out.println(test + ": " + call + " answered " + got + ", due is " + want);
+            System.out.println(test + ": " + call + " answered " + got + ", due is " + want
+                    + (sentence.isEmpty() ? "" : " (" + sentence + ")"));
         }
     }
 
@@ -48,6 +66,7 @@ final class Due {
     }
 
     void end() {
+        endSentence();
         if (checks == 0 || wrong > 0) {
             System.out.println(test + ": " + wrong + " of " + checks + " answers are not as due");
             System.exit(1);

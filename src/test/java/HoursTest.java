@@ -291,52 +291,64 @@ public final class HoursTest {
         DUE.is("mean of 0 and 0", house.mean(), 0.0);
     }
 
+    private static final int STEPS = 9;
+
     private static void promise23Digest() {
+        long last = 0;
+        for (int steps = 0; steps <= STEPS + 1; steps++) {
+            GhostCandles house = houseBehind(steps);
+            DUE.is("digest() behind " + steps + " steps", house.digest(), digestBehind(steps));
+            DUE.is("digest() is another behind step " + steps, house.digest() == last, false);
+            last = house.digest();
+            DUE.is("digest() again", house.digest(), last);
+        }
+    }
+
+    /** A full house behind more than all steps. */
+    private static GhostCandles houseBehind(int steps) {
+        if (steps > STEPS) {
+            return Houses.full();
+        }
         GhostCandles house = new GhostCandles();
-        DUE.is("digest() of a new house", house.digest(), digest(house));
-        long last = house.digest();
-        house.candle(1, 1, 9);
-        last = isNewDigest(house, "a candle", last);
-        house.light(1, 1);
-        last = isNewDigest(house, "put out", last);
-        house.mirror(1, 2, true);
-        last = isNewDigest(house, "a mirror", last);
-        house.tally(1, 3);
-        last = isNewDigest(house, "a tally", last);
-        house.wall(8, 6, 0);
-        last = isNewDigest(house, "a wall below", last);
-        house.wall(8, 6, 3);
-        last = isNewDigest(house, "a wall to the right", last);
-        house.come(1, 3, 2);
-        last = isNewDigest(house, "a ghost", last);
-        house.come(8, 0, 3);
-        house.send(1, 4, 4);
-        last = isNewDigest(house, "sent", last);
-        house.pass(3);
-        last = isNewDigest(house, "hours", last);
-        DUE.is("digest() again", house.digest(), last);
+        for (int step = 1; step <= steps; step++) {
+            takeStep(house, step);
+        }
+        return house;
     }
 
-    private static long isNewDigest(GhostCandles house, String behind, long last) {
-        DUE.is("digest() behind " + behind, house.digest(), digest(house));
-        DUE.is("digest() is another behind " + behind, house.digest() == last, false);
-        return house.digest();
+    private static void takeStep(GhostCandles house, int step) {
+        switch (step) {
+            case 1: house.candle(1, 1, 9); break;
+            case 2: house.light(1, 1); break;
+            case 3: house.mirror(1, 2, true); break;
+            case 4: house.tally(1, 3); break;
+            case 5: house.wall(8, 6, 0); break;
+            case 6: house.wall(8, 6, 3); break;
+            case 7: house.come(1, 3, 2); break;
+            case 8:
+                house.come(8, 0, 3);
+                house.send(1, 4, 4);
+                break;
+            default: house.pass(3); break;
+        }
     }
 
-    /** As promise 23 tells it, by the other calls. */
-    private static long digest(GhostCandles house) {
+    /** As promise 23 tells it, by the other calls; on several houses, as each has 512 calls. */
+    private static long digestBehind(int steps) {
         long d = 1009;
+        GhostCandles house = houseBehind(steps);
         for (int what = 0; what <= 9; what++) {
             d = d * 31 + house.count(what);
         }
+        GhostCandles walls = houseBehind(steps);
         for (int cell = 0; cell < 63; cell++) {
             int x = cell % 9;
             int y = cell / 9;
             for (int what = 0; what <= 4; what++) {
                 d = d * 31 + house.cell(x, y, what);
             }
-            d = d * 31 + (x < 8 && house.walled(x, y, 1) ? 1 : 0);
-            d = d * 31 + (y < 6 && house.walled(x, y, 2) ? 1 : 0);
+            d = d * 31 + (x < 8 && walls.walled(x, y, 1) ? 1 : 0);
+            d = d * 31 + (y < 6 && walls.walled(x, y, 2) ? 1 : 0);
         }
         for (int ghost = 0; ghost < house.count(1); ghost++) {
             for (int what = 0; what <= 7; what++) {

@@ -46,13 +46,36 @@ public final class ModelTest {
             }
         }
         for (int run = 0; run < RUNS; run++) {
-            String fault = new ModelTest(run * 7919L + 17, answers).run(methods, kinds);
+            ModelTest test = new ModelTest(run * 7919L + 17, answers);
+            if (run % 3 == 0) {
+                test.crowd();
+            }
+            String fault = test.run(methods, kinds);
             if (!fault.isEmpty()) {
                 System.out.println(fault + "ModelTest: run " + run + " is not as due");
                 System.exit(1);
             }
         }
         System.out.println("ModelTest: " + RUNS + " runs are as due: " + answers);
+    }
+
+    /** Things and ghosts in any cells, as many as there can be: some are refused. */
+    private void crowd() throws IllegalAccessException {
+        for (int number = 0; number < 12; number++) {
+            onBoth("candle", "tyw");
+            onBoth("mirror", "tyb");
+        }
+        for (int number = 0; number < 7; number++) {
+            onBoth("tally", "ty");
+            onBoth("come", "zyp");
+            onBoth("send", "gzy");
+        }
+    }
+
+    private void onBoth(String name, String kinds) throws IllegalAccessException {
+        Object[] arguments = arguments(kinds);
+        answer(method(GhostCandles.class, name), house, arguments);
+        answer(method(Model.class, name), model, arguments);
     }
 
     /** The calls up to the first wrong one; empty if there is none. */

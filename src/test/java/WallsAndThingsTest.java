@@ -33,17 +33,26 @@ public final class WallsAndThingsTest {
             for (int what = 0; what <= 4; what++) {
                 DUE.is("cell " + x + " " + y + " " + what, house.cell(x, y, what), 0);
             }
-            DUE.is("rim above " + x + " " + y, house.walled(x, y, 0), y == 0);
-            DUE.is("rim right of " + x + " " + y, house.walled(x, y, 1), x == 8);
-            DUE.is("rim below " + x + " " + y, house.walled(x, y, 2), y == 6);
-            DUE.is("rim left of " + x + " " + y, house.walled(x, y, 3), x == 0);
         }
         DUE.outOfBounds(house, "ghost(0, 0) of a new house", () -> house.ghost(0, 0));
+        newObjectHasNoWalls();
         GhostCandles other = new GhostCandles();
         other.wall(4, 4, 0);
         other.candle(1, 1, 5);
         DUE.is("walls of a house besides another", house.count(6), 0);
         DUE.is("candles of a house besides another", house.count(2), 0);
+    }
+
+    private static void newObjectHasNoWalls() {
+        GhostCandles house = new GhostCandles();
+        for (int cell = 0; cell < 63; cell++) {
+            int x = cell % 9;
+            int y = cell / 9;
+            DUE.is("rim above " + x + " " + y, house.walled(x, y, 0), y == 0);
+            DUE.is("rim right of " + x + " " + y, house.walled(x, y, 1), x == 8);
+            DUE.is("rim below " + x + " " + y, house.walled(x, y, 2), y == 6);
+            DUE.is("rim left of " + x + " " + y, house.walled(x, y, 3), x == 0);
+        }
     }
 
     private static void promise2Wall() {
@@ -224,19 +233,19 @@ public final class WallsAndThingsTest {
     private static void beamsEnd() {
         GhostCandles house = new GhostCandles();
         house.candle(0, 3, 60);
-        DUE.is("lit up to the sixth step", lit(house, 3), "#######..");
+        DUE.is("lit up to the sixth step", Houses.lit(house, 3), "#######..");
         DUE.is("lit cells: 7 in the row, 6 in the column", house.count(7), 13);
         house.wall(2, 3, 1);
-        DUE.is("lit up to a wall", lit(house, 3), "###......");
+        DUE.is("lit up to a wall", Houses.lit(house, 3), "###......");
         house.wall(2, 3, 1);
         house.tally(1, 3);
         house.candle(2, 3, 5);
         house.light(2, 3);
-        DUE.is("tallies and candles stop no beam", lit(house, 3), "#######..");
+        DUE.is("tallies and candles stop no beam", Houses.lit(house, 3), "#######..");
         house.light(2, 3);
-        DUE.is("two candles", lit(house, 3), "#########");
+        DUE.is("two candles", Houses.lit(house, 3), "#########");
         house.light(0, 3);
-        DUE.is("the second alone", lit(house, 3), "#########");
+        DUE.is("the second alone", Houses.lit(house, 3), "#########");
     }
 
     private static void mirrorsTurnBeams() {
@@ -267,33 +276,25 @@ public final class WallsAndThingsTest {
         house.candle(0, 6, 9);
         house.mirror(2, 6, true);
         house.mirror(2, 4, true);
-        DUE.is("two steps right, two up, two right", lit(house, 4), "#.###....");
-        DUE.is("nothing above the second mirror", lit(house, 3), "#........");
+        DUE.is("two steps right, two up, two right", Houses.lit(house, 4), "#.###....");
+        DUE.is("nothing above the second mirror", Houses.lit(house, 3), "#........");
     }
 
     private static void thingsAndWallsChangeTheLight() {
         GhostCandles house = new GhostCandles();
         house.candle(0, 0, 9);
         house.candle(0, 1, 9);
-        DUE.is("row 1", lit(house, 1), "#######..");
+        DUE.is("row 1", Houses.lit(house, 1), "#######..");
         house.mirror(3, 1, false);
-        DUE.is("row 1 with a mirror that turns it down", lit(house, 1), "####.....");
-        DUE.is("row 2 below it", lit(house, 2), "#..#.....");
+        DUE.is("row 1 with a mirror that turns it down", Houses.lit(house, 1), "####.....");
+        DUE.is("row 2 below it", Houses.lit(house, 2), "#..#.....");
         house.wall(3, 2, 0);
-        DUE.is("row 2 behind a wall", lit(house, 2), "#........");
+        DUE.is("row 2 behind a wall", Houses.lit(house, 2), "#........");
         house.remove(3, 1);
-        DUE.is("row 1 without the mirror", lit(house, 1), "#######..");
+        DUE.is("row 1 without the mirror", Houses.lit(house, 1), "#######..");
         house.remove(0, 1);
-        DUE.is("row 1 without the candle", lit(house, 1), "#........");
+        DUE.is("row 1 without the candle", Houses.lit(house, 1), "#........");
         house.remove(0, 0);
         DUE.is("lit cells without candles", house.count(7), 0);
-    }
-
-    private static String lit(GhostCandles house, int y) {
-        StringBuilder row = new StringBuilder();
-        for (int x = 0; x < 9; x++) {
-            row.append(house.cell(x, y, 3) == 1 ? '#' : '.');
-        }
-        return row.toString();
     }
 }
