@@ -340,19 +340,19 @@ public final class HoursTest {
         for (int what = 0; what <= 9; what++) {
             d = d * 31 + house.count(what);
         }
-        GhostCandles walls = houseBehind(steps);
+        GhostCandles other = houseBehind(steps);
         for (int cell = 0; cell < 63; cell++) {
             int x = cell % 9;
             int y = cell / 9;
             for (int what = 0; what <= 4; what++) {
                 d = d * 31 + house.cell(x, y, what);
             }
-            d = d * 31 + (x < 8 && walls.walled(x, y, 1) ? 1 : 0);
-            d = d * 31 + (y < 6 && walls.walled(x, y, 2) ? 1 : 0);
+            d = d * 31 + (x < 8 && other.walled(x, y, 1) ? 1 : 0);
+            d = d * 31 + (y < 6 && other.walled(x, y, 2) ? 1 : 0);
         }
-        for (int ghost = 0; ghost < house.count(1); ghost++) {
+        for (int ghost = 0; ghost < other.count(1); ghost++) {
             for (int what = 0; what <= 7; what++) {
-                d = d * 31 + house.ghost(ghost, what);
+                d = d * 31 + other.ghost(ghost, what);
             }
         }
         return d;
