@@ -642,7 +642,6 @@ public final class GhostCandles {
      * cells to which a first step may go are known.
      */
     private static final class Ways {
-        private final House house;
         private long own;
         private boolean mayPass;
         /** The cells that are at most a number of steps from the goal, without passing a wall. */
@@ -650,12 +649,8 @@ public final class GhostCandles {
         /** The cells that are at most so many steps from it, passing one wall. */
         private long passing;
 
-        Ways(House house) {
-            this.house = house;
-        }
-
         /** NONE without a way. */
-        int fewestSteps(int from, int goal, boolean mayPassWall) {
+        int fewestSteps(House house, int from, int goal, boolean mayPassWall) {
             own = Grid.only(from);
             mayPass = mayPassWall;
             long free = ~house.lit | own;
@@ -684,10 +679,11 @@ public final class GhostCandles {
         }
 
         /**
-         * The first step of the way that fewestSteps found last, if it has at least one step. That
-         * one has stopped before the own cell, so each neighbour found is just one step nearer.
+         * The first step of the way that fewestSteps found last, in the same house, if it has at
+         * least one step. That one has stopped before the own cell, so each neighbour found is just
+         * one step nearer.
          */
-        int firstDirection() {
+        int firstDirection(House house) {
             for (int direction = 0; direction < DIRECTIONS; direction++) {
                 long open = own & ~house.walledCells(direction);
                 if ((Grid.moved(open, direction) & (plain | passing)) != 0) {
@@ -718,7 +714,7 @@ public final class GhostCandles {
         private static final int TRAITS = 8;
 
         private final House house = new House();
-        private final Ways ways = new Ways(house);
+        private final Ways ways = new Ways();
         private final Row traits = new Row(MOST_GHOSTS * TRAITS);
         private int ghostCount;
         private int hour;
@@ -839,12 +835,12 @@ public final class GhostCandles {
         }
 
         int stepsTo(int ghost, int cell) {
-            return ways.fewestSteps(cellOf(ghost), cell, mayPass(ghost));
+            return ways.fewestSteps(house, cellOf(ghost), cell, mayPass(ghost));
         }
 
         int nextDirection(int ghost) {
-            int steps = ways.fewestSteps(cellOf(ghost), goalOf(ghost), mayPass(ghost));
-            return steps > 0 ? ways.firstDirection() : NONE;
+            int steps = ways.fewestSteps(house, cellOf(ghost), goalOf(ghost), mayPass(ghost));
+            return steps > 0 ? ways.firstDirection(house) : NONE;
         }
 
         /** Returns how often ghosts haunt in it. */

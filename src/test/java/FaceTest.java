@@ -1,7 +1,14 @@
+import java.io.IOException;
 import java.lang.reflect.Method;
 import java.lang.reflect.Modifier;
+import java.nio.file.Files;
+import java.nio.file.Path;
+import java.util.ArrayList;
 import java.util.Arrays;
+import java.util.List;
 import java.util.TreeSet;
+import java.util.regex.Matcher;
+import java.util.regex.Pattern;
 
 /** The public face: just what the document names, and nothing else that others could see. */
 public final class FaceTest {
@@ -10,7 +17,16 @@ public final class FaceTest {
     private static final String ARGUMENT = "IllegalArgumentException";
     private static final String STATE = "IllegalStateException";
 
-    public static void main(String[] args) {
+    private static final String[] IN_ORDER = {
+        "GhostCandles",
+        "---- walls and things", "wall", "candle", "mirror", "tally", "remove", "light",
+        "---- ghosts", "come", "send", "rite",
+        "---- what is there", "cell", "walled", "ghost", "count", "shines",
+        "---- ways", "way", "next",
+        "---- hours and looking ahead", "pass", "foresee", "reaches", "advise", "mean", "digest"
+    };
+
+    public static void main(String[] args) throws IOException {
         TreeSet<String> due = new TreeSet<>();
         due.add("boolean wall(int,int,int) " + BOUNDS + " " + ARGUMENT + " " + STATE);
         due.add("int candle(int,int,int) " + BOUNDS + " " + ARGUMENT + " " + STATE);
@@ -48,7 +64,21 @@ public final class FaceTest {
         DUE.is("public constructors", GhostCandles.class.getConstructors().length, 1);
         DUE.is("fields that others see", Arrays.stream(GhostCandles.class.getDeclaredFields())
                 .filter(field -> !Modifier.isPrivate(field.getModifiers())).count(), 0L);
+        interfaceSays();
         DUE.end();
+    }
+
+    /** What the document has ahead of which calls, as it stands in the file of the class. */
+    private static void interfaceSays() throws IOException {
+        List<String> found = new ArrayList<>();
+        Pattern told = Pattern.compile("    (?:// (----.*)|public (?:\\w+ )?(\\w+)\\(.*)");
+        for (String line : Files.readAllLines(Path.of("src", "main", "java", "GhostCandles.java"))) {
+            Matcher matcher = told.matcher(line);
+            if (matcher.matches()) {
+                found.add(matcher.group(1) != null ? matcher.group(1) : matcher.group(2));
+            }
+        }
+        DUE.is("calls and what is ahead of them", found, Arrays.asList(IN_ORDER));
     }
 
     private static String told(Method method) {

@@ -15,7 +15,6 @@ public final class HoursTest {
         promise21AdviseToLight();
         promise22Mean();
         promise23Digest();
-        exampleOfTheReadme();
         DUE.end();
     }
 
@@ -356,17 +355,6 @@ public final class HoursTest {
             }
         }
         return d;
-    }
-
-    private static void exampleOfTheReadme() {
-        GhostCandles house = new GhostCandles();
-        house.tally(4, 0);
-        house.candle(0, 6, 20);
-        house.wall(2, 0, 1);
-        int ghost = house.come(1, 0, 1);
-        DUE.is("send", house.send(ghost, 4, 0), 3);
-        DUE.is("pass", house.pass(5), 3);
-        DUE.is("marks", house.cell(4, 0, 1), 3);
     }
 
     private static void isAt(GhostCandles house, int ghost, int x, int y) {
